@@ -355,6 +355,9 @@ public final class PromiseTests {
         due("between(4, 1, true)", x.between(4, 1, true), 1);
         due("between(1, 0, false)", x.between(1, 0, false), 3);
         due("between(1, 0, true)", x.between(1, 0, true), 2);
+        due("between(2, 4, false)", x.between(2, 4, false), 0);
+        due("between(0, 0, true)", x.between(0, 0, true), 0);
+        due("between(2, 2, true)", x.between(2, 2, true), 0);
         due("between(5, 0, true)", x.between(5, 0, true), INVALID);
         due("between(0, 5, false)", x.between(0, 5, false), INVALID);
         for (int far : FAR) {
@@ -537,6 +540,14 @@ public final class PromiseTests {
         for (int far : FAR) {
             due("sums(far)", x.sums(far), INVALID);
         }
+        CrookedSums two = begun(2, 1);
+        int[][] twoSums = {{1, 0, 0, 0}, {2, 1, 1, 1}};
+        for (int what = 0; what < 4; what++) {
+            type(two, "11");
+            due("sums(" + what + ") of 11", two.sums(what), twoSums[0][what]);
+            type(two, "111");
+            due("sums(" + what + ") of 111", two.sums(what), twoSums[1][what]);
+        }
         type(x, "1+1");
         due("sums of a fault", x.sums(1), NOT_POSSIBLE);
     }
@@ -562,6 +573,8 @@ public final class PromiseTests {
         due("cut(0) of 1011", y.cut(0), NOT_FOUND);
         due("cut(1) of 1011", y.cut(1), 2);
         due("cut(2) of 1011", y.cut(2), 1);
+        type(y, "00");
+        due("cut(0) of 00", y.cut(0), 1);
     }
 
     private static void promise24IfSwapped() {
@@ -592,6 +605,13 @@ public final class PromiseTests {
         int[] klein = {1, 3, 1, 3, 64};
         for (int what = 0; what < 5; what++) {
             due("best(" + what + ") of a new object", x.best(what), klein[what]);
+        }
+        // Three squares of this table give 64 triples, and four of the other one give 53: the first is told.
+        int[] tied = {1, 2, 1, 2, 64};
+        int[] tied5 = {0, 1, 0, 1, 53};
+        for (int what = 0; what < 5; what++) {
+            due("best(" + what + ") of several", loaded(4, KLEIN).best(what), tied[what]);
+            due("best(" + what + ") of several, 5", loaded(5, LOOP5).best(what), tied5[what]);
         }
         due("best is no change", x.count(11), 0);
         dueTable("best changes nothing", x, "0123/1230/2301/3012");
