@@ -1,72 +1,5 @@
 // Calls with answers that were worked out by hand from the document, promise by promise.
-public final class PromiseTests {
-    private static int wrong = 0;
-
-    private static void due(String call, long got, long want) {
-        if (got != want) {
-            wrong++;
-            System.out.println(call + " answered " + got + ", due is " + want);
-        }
-    }
-
-    private static void dueD(String call, double got, double want) {
-        if (got != want) {
-            wrong++;
-            System.out.println(call + " answered " + got + ", due is " + want);
-        }
-    }
-
-    private static final int INVALID = CrookedSums.INVALID_ARGUMENT;
-    private static final int NOT_POSSIBLE = CrookedSums.NOT_POSSIBLE;
-    private static final int LIMIT = CrookedSums.LIMIT_REACHED;
-    private static final int NOT_FOUND = CrookedSums.NOT_FOUND;
-    private static final int[] FAR = {Integer.MIN_VALUE, -65536, -9, -2, -1, 256, 65536, Integer.MAX_VALUE};
-
-    private static CrookedSums begun(int tokens, int crook) {
-        CrookedSums x = new CrookedSums();
-        x.begin(tokens, crook);
-        return x;
-    }
-
-    // Four tokens with exclusive or: each token is its own return, and there are many little squares.
-    private static final String KLEIN = "0123/1032/2301/3210";
-    // Five tokens, neutral 0 at both sides, not associative: each token with itself is 0.
-    private static final String LOOP5 = "01234/10342/24013/32401/43120";
-
-    private static CrookedSums loaded(int tokens, String text) {
-        CrookedSums x = begun(tokens, 1);
-        type(x, text);
-        if (x.load() < 0) {
-            wrong++;
-            System.out.println("could not load " + text);
-        }
-        return x;
-    }
-
-    private static int type(CrookedSums x, String text) {
-        x.clear();
-        int length = 0;
-        for (int i = 0; i < text.length(); i++) {
-            length = x.append(text.charAt(i));
-        }
-        return length;
-    }
-
-    private static void dueTable(String name, CrookedSums x, String text) {
-        StringBuilder got = new StringBuilder();
-        int n = x.count(0);
-        for (int a = 0; a < n; a++) {
-            got.append(a > 0 ? "/" : "");
-            for (int b = 0; b < n; b++) {
-                got.append(x.sum(a, b));
-            }
-        }
-        if (!got.toString().equals(text)) {
-            wrong++;
-            System.out.println(name + ": the table is " + got + ", due is " + text);
-        }
-    }
-
+public final class PromiseTests extends Checks {
     private static void promise1NewObject() {
         CrookedSums x = new CrookedSums();
         dueTable("new", x, "0123/1230/2301/3012");
@@ -272,11 +205,10 @@ public final class PromiseTests {
         due("load of another size", x.load(), NOT_POSSIBLE);
         type(x, "1032/0123/3210/2301");
         due("load, all different", x.load(), 16);
-        String eight = "01234567/10325476/23016745/32107654/45670123/54761032/67452301/76543210";
         CrookedSums y = begun(8, 1);
-        due("a table of 8", type(y, eight), 71);
+        due("a table of 8", type(y, XOR8), 71);
         due("load of 8", y.load(), 28);
-        dueTable("load of 8", y, eight);
+        dueTable("load of 8", y, XOR8);
     }
 
     private static void promise11Value() {
@@ -734,9 +666,6 @@ public final class PromiseTests {
         promise26Undo();
         promise27Save();
         promise28Restore();
-        System.out.println(wrong == 0 ? "all answers are as due" : wrong + " answers are not as due");
-        if (wrong != 0) {
-            System.exit(1);
-        }
+        tellAndExit();
     }
 }
