@@ -37,6 +37,37 @@ public final class PromiseSentences extends Sentences {
         dueText("another object", allOf(other), allOf(new CrookedSums()));
     }
 
+    /** A table that a larger one was before answers as one that was none: its rows and columns behind are no more. */
+    private static void nothingIsLeft(int tokens) {
+        for (int kind = 0; kind <= 3; kind++) {
+            CrookedSums x = loaded(8, XOR8);
+            if (kind < 2) {
+                x.rows(kind, tokens);
+            } else {
+                x.columns(kind - 2, tokens);
+            }
+            for (int crook = 1; crook < tokens; crook++) {
+                if (divisor(tokens, crook) == 1) {
+                    dueText("behind eight tokens, " + tokens + " by " + crook, shortLooks(x, tokens, crook),
+                        shortLooks(begun(tokens, crook), tokens, crook));
+                }
+            }
+        }
+    }
+
+    private static String shortLooks(CrookedSums x, int tokens, int crook) {
+        x.begin(tokens, crook);
+        x.columns(0, 1);
+        StringBuilder text = new StringBuilder();
+        for (int what = 0; what <= 10; what++) {
+            text.append(" count ").append(x.count(what));
+        }
+        for (int what = 0; what <= 8; what++) {
+            text.append(" token ").append(x.token(0, what)).append(' ').append(x.token(tokens - 1, what));
+        }
+        return text.append(" best ").append(x.best(1)).append(x.best(3)).append(x.best(4)).toString();
+    }
+
     private static void promise2() {
         section("## Promise 2: begin");
         says("`int begin(int tokens, int crook)`: Begins a table anew: a + b is the remainder of crook * a + b by tokens.");
@@ -49,6 +80,9 @@ public final class PromiseSentences extends Sentences {
         dueTable("anew", anew, "0123/3012/2301/1230");
         due("anew, as before", anew.begin(4, 3), 32);
         dueTable("anew, as before", anew, "0123/3012/2301/1230");
+        for (int tokens = 2; tokens <= 7; tokens++) {
+            nothingIsLeft(tokens);
+        }
 
         says("- `tokens`: 2 to 8: how many tokens there are then");
         for (int tokens = 2; tokens <= 8; tokens++) {
@@ -85,35 +119,31 @@ public final class PromiseSentences extends Sentences {
         due("both arguments out of their ranges", new CrookedSums().begin(9, 8), INVALID);
     }
 
-    private interface Exchange {
-        int on(CrookedSums x, int a, int b);
-    }
-
     /** The parameters and the answer of rows, columns and names have the same edges. */
-    private static void exchanges(Exchange exchange) {
+    private static void exchanges(OfTwo exchange) {
         says("- `a`: a token");
-        says2Tokens(exchange, true);
+        twoUnlikeTokens(exchange, true);
         says("- `b`: another token");
-        says2Tokens(exchange, false);
+        twoUnlikeTokens(exchange, false);
         says("Returns how many sums are different then; INVALID_ARGUMENT (also if both are the same).");
         for (int n = 2; n <= 8; n++) {
             CrookedSums x = begun(n, 1);
-            due("both rows, columns or names differ all along, " + n, exchange.on(x, 0, n - 1), 2 * n);
+            due("both rows, columns or names differ all along, " + n, exchange.of(x, 0, n - 1), 2 * n);
             for (int token = 0; token < n; token++) {
-                due("both are " + token, exchange.on(x, token, token), INVALID);
+                due("both are " + token, exchange.of(x, token, token), INVALID);
             }
             due("the states of begin and of one exchange", x.count(11), 2);
-            due("both are the same, and no token", exchange.on(x, n, n), INVALID);
+            due("both are the same, and no token", exchange.of(x, n, n), INVALID);
         }
     }
 
-    private static void says2Tokens(Exchange exchange, boolean first) {
+    private static void twoUnlikeTokens(OfTwo exchange, boolean first) {
         for (int n = 2; n <= 8; n++) {
             for (int token : new int[] {0, n - 1, n, n + 1, -1, -n, Integer.MIN_VALUE, Integer.MAX_VALUE}) {
                 boolean there = token >= 0 && token < n;
                 int other = token == 0 ? 1 : 0;
                 CrookedSums x = begun(n, 1);
-                int got = first ? exchange.on(x, token, other) : exchange.on(x, other, token);
+                int got = first ? exchange.of(x, token, other) : exchange.of(x, other, token);
                 due("the token " + token + " of " + n, got, there ? 2 * n : INVALID);
                 due("states then", x.count(11), there ? 2 : 1);
             }
@@ -143,28 +173,37 @@ public final class PromiseSentences extends Sentences {
         exchanges((y, a, b) -> y.names(a, b));
     }
 
-    private static void promise6() {
-        section("## Promise 6: swap");
-        says("`int swap(int a, int b, int c, int d)`: Swaps a little square.");
-        CrookedSums x = begun(8, 1);
-        due("swap(3, 7, 2, 6)", x.swap(3, 7, 2, 6), 1000 + 432 - 512);
-        dueTable("swap(3, 7, 2, 6)", x, "01234567/12345670/23456701/34167052/45670123/56701234/67012345/70523416");
-        String[] quotes = {"- `a`: one row", "- `b`: the other row", "- `c`: one column", "- `d`: the other column"};
+    private interface OfFour {
+        int of(CrookedSums x, int a, int b, int c, int d);
+    }
+
+    /** Each place of a little square takes the last token, but none behind it nor one before the first. */
+    private static void tokensOfSquare(OfFour call, String... quotes) {
         for (int place = 0; place < 4; place++) {
             says(quotes[place]);
             for (int n = 4; n <= 8; n += 2) {
                 for (int token : new int[] {n, n + 1, -1, -n, Integer.MIN_VALUE, Integer.MAX_VALUE}) {
                     int[] s = {0, n / 2, 1, 1 + n / 2};
                     s[place] = token;
-                    due("the token " + token + " of " + n, begun(n, 1).swap(s[0], s[1], s[2], s[3]), INVALID);
+                    due("the token " + token + " of " + n, call.of(begun(n, 1), s[0], s[1], s[2], s[3]), INVALID);
                 }
                 int[] last = {n - 1, n - 1, n - 1, n - 1};
                 last[place ^ 1] = n / 2 - 1;
                 last[place < 2 ? 2 : 0] = 0;
                 last[place < 2 ? 3 : 1] = n / 2;
-                due("the last token of " + n, begun(n, 1).swap(last[0], last[1], last[2], last[3]) > 0 ? 1 : 0, 1);
+                due("the last token of " + n, call.of(begun(n, 1), last[0], last[1], last[2], last[3]) > 0 ? 1 : 0, 1);
             }
         }
+    }
+
+    private static void promise6() {
+        section("## Promise 6: swap");
+        says("`int swap(int a, int b, int c, int d)`: Swaps a little square.");
+        CrookedSums x = begun(8, 1);
+        due("swap(3, 7, 2, 6)", x.swap(3, 7, 2, 6), 1000 + 432 - 512);
+        dueTable("swap(3, 7, 2, 6)", x, "01234567/12345670/23456701/34167052/45670123/56701234/67012345/70523416");
+        tokensOfSquare((y, a, b, c, d) -> y.swap(a, b, c, d), "- `a`: one row", "- `b`: the other row",
+            "- `c`: one column", "- `d`: the other column");
 
         says("Returns how many more triples associate then than before, and 1000");
         CrookedSums y = new CrookedSums();
@@ -396,10 +435,6 @@ public final class PromiseSentences extends Sentences {
     }
 
     // ---- looks
-
-    private interface OfTwo {
-        int of(CrookedSums x, int a, int b);
-    }
 
     /** Both parameters are tokens: one before the first and one behind the last are none. */
     private static void twoTokens(String first, String second, OfTwo look) {
@@ -711,6 +746,11 @@ public final class PromiseSentences extends Sentences {
             due("ways(0, " + none + "), empty pad", new CrookedSums().ways(0, none), INVALID);
         }
         says("Returns how many ways have this token as their sum (the same for both)");
+        int[] eight = {33, 0, 35, 0, 33, 0, 31, 0};
+        for (int token = 0; token < 8; token++) {
+            due("ways(" + token + ", 0) of eight tokens", typed(8, 3, "7654321").ways(token, 0), eight[token]);
+            due("ways(" + token + ", 1) of eight tokens", typed(8, 3, "7654321").ways(token, 1), eight[token]);
+        }
         String[] rows = {"1362541", "6666", "123", "12", "6"};
         int[][] want = {{18, 20, 20, 19, 16, 20, 19}, {0, 0, 1, 0, 1, 2, 1}, {0, 0, 0, 0, 1, 1, 0}, {0, 0, 0, 0, 0, 1, 0},
             {0, 0, 0, 0, 0, 0, 1}};
@@ -749,7 +789,10 @@ public final class PromiseSentences extends Sentences {
         }
         says("; 3: the token that is its sum in most ways, of several the lowest");
         due("one token, the last", typed(8, 1, "7").sums(3), 7);
+        due("one token, the first", typed(8, 1, "0").sums(3), 0);
         due("the only one", typed(8, 1, "7654321").sums(3), 4);
+        due("the only one, the first", typed(8, 1, "1111112").sums(3), 0);
+        due("0 and 2 with 1 way each", typed(4, 3, "123").sums(3), 0);
         due("the most, behind some", typed(7, 3, "6666").sums(3), 5);
         due("the last one", typed(3, 2, "1011").sums(3), 2);
         due("1 and 5 of four with 20 ways", typed(7, 3, "1362541").sums(3), 1);
@@ -784,6 +827,9 @@ public final class PromiseSentences extends Sentences {
             due("cut(" + token + ") of 1234", typed(5, 2, "1234").cut(token), four[token]);
         }
         due("the one cut of two", typed(5, 2, "12").cut(4), 1);
+        due("the former and the latter row come to 0", typed(5, 2, "00").cut(0), 1);
+        due("the former row comes to 0", typed(5, 2, "04").cut(4), 1);
+        due("the former and the latter row come to the last token", typed(5, 2, "44").cut(2), 1);
         CrookedSums six = loaded(4, "2031/3210/1302/0123");
         type(six, "2333311");
         due("the last cut of seven", six.cut(1), 6);
@@ -797,6 +843,7 @@ public final class PromiseSentences extends Sentences {
         says("; NOT_FOUND if no way comes to it, or the row has one token.");
         due("no way of two", typed(5, 2, "12").cut(3), NOT_FOUND);
         due("no way of seven", six.cut(3), NOT_FOUND);
+        due("parts alone come to it", typed(8, 1, "171").cut(0), NOT_FOUND);
         for (int token = 0; token < 8; token++) {
             due("the row has one token", typed(8, 1, "" + token).cut(token), NOT_FOUND);
             due("the row has one token, another one", typed(8, 1, "" + token).cut(7 - token), NOT_FOUND);
@@ -811,22 +858,8 @@ public final class PromiseSentences extends Sentences {
         CrookedSums x = new CrookedSums();
         due("it would bring KLEIN", x.ifSwapped(1, 3, 1, 3, 1), 64);
         dueText("all is as it was", allOf(x), allOf(new CrookedSums()));
-        String[] quotes = {"- `a`: as for swap()", "- `b`: as for swap()", "- `c`: as for swap()", "- `d`: as for swap()"};
-        for (int place = 0; place < 4; place++) {
-            says(quotes[place]);
-            for (int n = 4; n <= 8; n += 2) {
-                for (int token : new int[] {n, n + 1, -1, -n, Integer.MIN_VALUE, Integer.MAX_VALUE}) {
-                    int[] s = {0, n / 2, 1, 1 + n / 2};
-                    s[place] = token;
-                    due("the token " + token + " of " + n, begun(n, 1).ifSwapped(s[0], s[1], s[2], s[3], 0), INVALID);
-                }
-                int[] last = {n - 1, n - 1, n - 1, n - 1};
-                last[place ^ 1] = n / 2 - 1;
-                last[place < 2 ? 2 : 0] = 0;
-                last[place < 2 ? 3 : 1] = n / 2;
-                due("the last token of " + n, begun(n, 1).ifSwapped(last[0], last[1], last[2], last[3], 0) > 0 ? 1 : 0, 1);
-            }
-        }
+        tokensOfSquare((y, a, b, c, d) -> y.ifSwapped(a, b, c, d, 0), "- `a`: as for swap()", "- `b`: as for swap()",
+            "- `c`: as for swap()", "- `d`: as for swap()");
         says("- `what`: 0: how many pairs would commute; 1: how many triples would associate; 2: how many rings there would be");
         int[][] squares = {{0, 2, 1, 3}, {2, 0, 3, 1}, {1, 3, 1, 3}, {0, 2, 0, 2}};
         int[][] would = {{8, 32, 3}, {8, 32, 3}, {16, 64, 5}, {16, 32, 3}};
@@ -950,6 +983,10 @@ public final class PromiseSentences extends Sentences {
         CrookedSums x = loaded(3, "210/102/021");
         type(x, "01");
         x.save();
+        due("the pad behind save", x.count(10), 2);
+        due("its sum", x.sums(1), 1);
+        due("the history behind save", x.count(11), 2);
+        dueTable("the table behind save", x, "210/102/021");
         x.names(0, 1);
         type(x, "0+1+2");
         x.restore();

@@ -9,7 +9,7 @@ import java.util.Map;
 // Each sentence under "## Terms" of the document, with the edges that it names.
 public final class TermSentences extends Sentences {
     private static final String Z4 = "0123/1230/2301/3012";
-    private static final String[] PADS = {"", "1+(2+3)", "1+", "123", "1", KLEIN, "(".repeat(80)};
+    private static final String[] PADS = {"", "1+(2+3)", "1+((2", "1+", "123", "1", KLEIN, "(".repeat(80)};
 
     private interface Call {
         int on(CrookedSums x);
@@ -102,39 +102,25 @@ public final class TermSentences extends Sentences {
 
     // ---- changes of the table
 
+    /** The table is 01234/23401/40123/12340/34012 before: its rows and columns tell different things. */
+    private static void exchange(OfTwo call, String firstAndLast, String sideBySide) {
+        int[][] pairs = {{0, 4}, {4, 0}, {2, 3}, {3, 2}};
+        for (int i = 0; i < pairs.length; i++) {
+            CrookedSums x = begun(5, 2);
+            due("the exchange of " + pairs[i][0] + " and " + pairs[i][1], call.of(x, pairs[i][0], pairs[i][1]), 10);
+            dueTable("the exchange of " + pairs[i][0] + " and " + pairs[i][1], x, i < 2 ? firstAndLast : sideBySide);
+        }
+    }
+
     private static void changesOfTheTable() {
         section("### Changes of the table");
-        // begin(5, 2) is 01234/23401/40123/12340/34012: rows and columns tell different things.
         says("To exchange rows a and b: all sums a + x and b + x change places.");
-        for (int back = 0; back <= 1; back++) {
-            CrookedSums x = begun(5, 2);
-            due("rows, the first and the last", back == 0 ? x.rows(0, 4) : x.rows(4, 0), 10);
-            dueTable("rows, the first and the last", x, "34012/23401/40123/12340/01234");
-        }
-        CrookedSums next = begun(5, 2);
-        next.rows(2, 3);
-        dueTable("rows side by side", next, "01234/23401/12340/40123/34012");
-
+        exchange((x, a, b) -> x.rows(a, b), "34012/23401/40123/12340/01234", "01234/23401/12340/40123/34012");
         says("To exchange columns a and b: all sums x + a and x + b.");
-        for (int back = 0; back <= 1; back++) {
-            CrookedSums x = begun(5, 2);
-            due("columns, the first and the last", back == 0 ? x.columns(0, 4) : x.columns(4, 0), 10);
-            dueTable("columns, the first and the last", x, "41230/13402/30124/02341/24013");
-        }
-        next = begun(5, 2);
-        next.columns(2, 3);
-        dueTable("columns side by side", next, "01324/23041/40213/12430/34102");
-
+        exchange((x, a, b) -> x.columns(a, b), "41230/13402/30124/02341/24013", "01324/23041/40213/12430/34102");
         says("To exchange names a and b: where the table had the sum a it has b, and the other way round"
             + " (rows and columns stay).");
-        for (int back = 0; back <= 1; back++) {
-            CrookedSums x = begun(5, 2);
-            due("names, the first and the last", back == 0 ? x.names(0, 4) : x.names(4, 0), 10);
-            dueTable("names, the first and the last", x, "41230/23041/04123/12304/30412");
-        }
-        next = begun(5, 2);
-        next.names(2, 3);
-        dueTable("names side by side", next, "01324/32401/40132/13240/24013");
+        exchange((x, a, b) -> x.names(a, b), "41230/23041/04123/12304/30412", "01324/32401/40132/13240/24013");
         littleSquares();
     }
 
@@ -502,6 +488,18 @@ public final class TermSentences extends Sentences {
         }
     }
 
+    /** What the pad was read as before does not matter. */
+    private static void readAnew(String former, String latter) {
+        CrookedSums x = new CrookedSums();
+        type(x, former);
+        looksOf(x);
+        x.cut(1);
+        type(x, latter);
+        CrookedSums fresh = new CrookedSums();
+        type(fresh, latter);
+        dueText("looks with the pad " + latter + " behind " + former, looksOf(x), looksOf(fresh));
+    }
+
     private static void faults() {
         says("The fault of the pad, read in one of these ways, is the position, from 0, of the first character that is wrong");
         for (int way = 0; way <= 2; way++) {
@@ -512,6 +510,11 @@ public final class TermSentences extends Sentences {
         dueFault(4, 0, Z4 + "xx", 19);
         dueFault(4, 1, "0+1+x+y", 4);
         dueFault(4, 2, "010x0x", 3);
+        for (String former : PADS) {
+            for (String latter : PADS) {
+                readAnew(former, latter);
+            }
+        }
 
         says(": for a sum and a row if no pad of that kind, of any length, begins with the characters before it and this"
             + " character");
@@ -663,22 +666,27 @@ public final class TermSentences extends Sentences {
     private static void changesAndErrors() {
         section("### Changes and errors");
         says("The changes are the calls of begin, rows, columns, names, swap, load and restore that return no error.");
-        CrookedSums x = new CrookedSums();
-        x.save();
-        type(x, KLEIN);
         Call[] changes = {y -> y.begin(4, 1), y -> y.rows(0, 1), y -> y.columns(0, 1), y -> y.names(0, 1),
             y -> y.swap(0, 2, 1, 3), y -> y.load(), y -> y.restore()};
         for (int i = 0; i < changes.length; i++) {
-            CrookedSums one = new CrookedSums();
+            CrookedSums one = begun(5, 2);
             one.save();
+            one.begin(4, 1);
             type(one, KLEIN);
-            due("save, clear and append record nothing", one.count(11), 0);
+            due("save, clear and append record nothing", one.count(11), 2);
             due("change " + i + " is refused", changes[i].on(one) < 0 ? 1 : 0, 0);
-            due("states behind change " + i, one.count(11), 1);
-            due("undo of change " + i, one.undo(), 0);
+            due("states behind change " + i, one.count(11), 3);
+            due("the pad behind change " + i, one.count(10), i == 5 ? 0 : 19);
+            due("undo of change " + i, one.undo(), 2);
             dueTable("behind undo of change " + i, one, Z4);
-            due("undo is no change", one.count(11), 0);
+            due("undo is no change", one.count(11), 2);
+            due("the pad behind undo of change " + i, one.count(10), i == 5 ? 0 : 19);
+            due("the snapshot behind change " + i + " and its undo", one.restore(), 5);
+            changes[i].on(one);
+            due("the snapshot behind change " + i, one.restore(), 5);
+            dueTable("the snapshot behind change " + i, one, "01234/23401/40123/12340/34012");
         }
+        CrookedSums x = new CrookedSums();
         due("begin that is refused", x.begin(4, 2), INVALID);
         due("rows that is refused", x.rows(0, 4), INVALID);
         due("swap that is refused", x.swap(0, 1, 0, 1), NOT_POSSIBLE);

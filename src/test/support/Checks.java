@@ -13,6 +13,10 @@ abstract class Checks {
     // The same as KLEIN with eight tokens.
     static final String XOR8 = "01234567/10325476/23016745/32107654/45670123/54761032/67452301/76543210";
 
+    interface OfTwo {
+        int of(CrookedSums x, int a, int b);
+    }
+
     static int wrong = 0;
     static int checks = 0;
     static String about = "";
