@@ -173,11 +173,12 @@ public final class PromiseTests extends Checks {
         for (int i = 0; i < rows.length; i++) {
             dueFault(x, 2, rows[i], rowFaults[i]);
         }
-        dueFault(x, 1, "(".repeat(80), 80);
-        dueFault(x, 1, "(".repeat(39) + "1" + ")".repeat(39), NOT_FOUND);
-        dueFault(x, 1, "(".repeat(40) + "1" + ")".repeat(39), 80);
-        dueFault(x, 1, "1" + "+1".repeat(39), NOT_FOUND);
-        dueFault(x, 1, "1+".repeat(40), 80);
+        CrookedSums y = begun(3, 1);
+        dueFault(y, 1, "(".repeat(80), 80);
+        dueFault(y, 1, "(".repeat(39) + "1" + ")".repeat(39), NOT_FOUND);
+        dueFault(y, 1, "(".repeat(40) + "1" + ")".repeat(39), 80);
+        dueFault(y, 1, "1" + "+1".repeat(39), NOT_FOUND);
+        dueFault(y, 1, "1+".repeat(40), 80);
         dueFault(begun(8, 1), 1, "7+8", 2);
         dueFault(begun(2, 1), 0, "10/01", NOT_FOUND);
         dueFault(begun(2, 1), 2, "012", 2);
